@@ -20,7 +20,7 @@ public final class PolygonFrame {
     private final int[] sides;
     private Ring polygon;
     /** A clip works in these two rings only, so that one that is refused has changed nothing. */
-    private Ring oddPasses;
+    private final Ring oddPasses;
     private Ring evenPasses;
 
     public PolygonFrame(int w, int h, int vertCap) {

@@ -10,6 +10,7 @@ public final class ClipTest {
         onTheSideIsGood();
         tooMany();
         tooManyForAWhile();
+        tooManyAfterAClip();
         again();
         keepsThePixels();
         Check.finish();
@@ -80,14 +81,17 @@ public final class ClipTest {
         clipped("far by x, rounded", steep, -16383, 16383, -16384, 16384, -16383, 16383);
     }
 
-    /** A cut with x first is rounded before y cuts it: the other order has other points. */
+    /** A cut is rounded before the next side cuts its edges: another order has other points. */
     private static void orderOfPasses() {
         PolygonFrame frame = frame(8, 1, 1, 99, 99);
         Check.add(frame, 0, 0, 10, 7);
         clipped("x before y", frame, 2, 1, 2, 1, 10, 7);
-        PolygonFrame rightFirst = frame(9, 0, 0, 4, 4);
-        Check.add(rightFirst, 1, 1, 9, 6, 2, 8);
-        clipped("right before bottom", rightFirst, 1, 4, 1, 1, 4, 2, 4, 4);
+        PolygonFrame byX = frame(8, 3, -99, 5, 99);
+        Check.add(byX, 0, 0, 10, 7);
+        clipped("x0 before x1", byX, 5, 3, 3, 2, 3, 2, 5, 3);
+        PolygonFrame byY = frame(8, -99, 3, 99, 5);
+        Check.add(byY, 0, 0, 7, 10);
+        clipped("y0 before y1", byY, 3, 5, 2, 3, 2, 3, 3, 5);
     }
 
     private static void fewVertices() {
@@ -143,6 +147,18 @@ public final class ClipTest {
         Check.add(last, 0, 0, 10, 0, 10, 10);
         Check.due("too many behind the last pass: clip()", last.clip(), -1);
         Check.polygon("too many behind the last pass", last, 0, 0, 10, 0, 10, 10);
+    }
+
+    /** A clip that went well leaves nothing that a refused one could spoil. */
+    private static void tooManyAfterAClip() {
+        PolygonFrame frame = frame(5, -20, -20, 20, 20);
+        Check.add(frame, 0, 5, 5, 0, 10, 5, 5, 10);
+        clipped("wide", frame, 0, 5, 5, 0, 10, 5, 5, 10);
+        Check.due("setClip(1, 1, 20, 20)", frame.setClip(1, 1, 20, 20), true);
+        Check.due("too many after a clip: clip()", frame.clip(), -1);
+        Check.polygon("too many after a clip", frame, 0, 5, 5, 0, 10, 5, 5, 10);
+        Check.due("setClip(1, 0, 20, 20)", frame.setClip(1, 0, 20, 20), true);
+        clipped("after the refused one", frame, 1, 6, 1, 4, 5, 0, 10, 5, 5, 10);
     }
 
     private static void again() {

@@ -1,7 +1,9 @@
 /** All promises at once: long runs of calls, the same ones every time, answer as the plain model does. */
 public final class ModelTest {
-    private static final int RUNS = 1500;
-    private static final int CALLS = 512;
+    private static final int RUNS = 3000;
+    /** With the reading of all vertices and some pixels at the end, a run has at most 512 calls. */
+    private static final int MIXED_CALLS = 260;
+    private static final int PIXELS_AT_THE_END = 120;
 
     private final PolygonFrame frame;
     private final PlainModel model;
@@ -24,10 +26,10 @@ public final class ModelTest {
     public static void main(String[] args) {
         for (int run = 0; run < RUNS; run++) {
             ModelTest test = new ModelTest(run);
-            for (int call = 0; call < CALLS; call++) {
+            for (int call = 0; call < MIXED_CALLS; call++) {
                 test.call();
             }
-            test.compareState();
+            test.readAtTheEnd();
         }
         Check.finish();
     }
@@ -48,30 +50,29 @@ public final class ModelTest {
 
     private void call() {
         switch (below(20)) {
-            case 0 -> pixels();
-            case 1 -> polygon();
+            case 0 -> clear();
+            case 1 -> begin();
             case 2, 3 -> setClip();
             case 4, 5 -> Check.due(name + "clip()", frame.clip(), model.clip());
             case 6, 7 -> fill();
-            case 8, 9, 10 -> inside();
-            case 11 -> readVertex();
-            case 12 -> readPixel();
+            case 8, 9 -> inside();
+            case 10 -> Check.due(name + "vertices()", frame.vertices(), model.vertices());
+            case 11 -> readX(below(64) - 2);
+            case 12 -> readY(below(64) - 2);
+            case 13 -> readPixel();
             default -> vertex();
         }
-        Check.due(name + "vertices()", frame.vertices(), model.vertices());
     }
 
-    private void pixels() {
+    private void clear() {
         int colour = below(9) - 1;
         frame.clear(colour);
         model.clear(colour);
     }
 
-    private void polygon() {
-        if (below(3) == 0) {
-            frame.begin();
-            model.begin();
-        }
+    private void begin() {
+        frame.begin();
+        model.begin();
     }
 
     private void setClip() {
@@ -94,9 +95,11 @@ public final class ModelTest {
         Check.due(name + "inside(" + x + ", " + y + ")", frame.inside(x, y), model.inside(x, y));
     }
 
-    private void readVertex() {
-        int i = below(64) - 2;
+    private void readX(int i) {
         Check.due(name + "vx(" + i + ")", frame.vx(i), model.vx(i));
+    }
+
+    private void readY(int i) {
         Check.due(name + "vy(" + i + ")", frame.vy(i), model.vy(i));
     }
 
@@ -112,15 +115,13 @@ public final class ModelTest {
         Check.due(name + "vertex(" + x + ", " + y + ")", frame.vertex(x, y), model.vertex(x, y));
     }
 
-    private void compareState() {
-        for (int i = -1; i <= 60; i++) {
-            Check.due(name + "at the end vx(" + i + ")", frame.vx(i), model.vx(i));
-            Check.due(name + "at the end vy(" + i + ")", frame.vy(i), model.vy(i));
+    private void readAtTheEnd() {
+        for (int i = 0; i <= model.vertices(); i++) {
+            readX(i);
+            readY(i);
         }
-        for (int y = -1; y <= 24; y++) {
-            for (int x = -1; x <= 24; x++) {
-                Check.due(name + "at the end pixel(" + x + ", " + y + ")", frame.pixel(x, y), model.pixel(x, y));
-            }
+        for (int i = 0; i < PIXELS_AT_THE_END; i++) {
+            readPixel();
         }
     }
 }
