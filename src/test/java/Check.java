@@ -1,14 +1,27 @@
 /** What the tests share: it prints every answer that is not the one due, and ends with exit code 1 if there was one. */
 final class Check {
     private static int wrong = 0;
+    private static String words = "";
 
     private Check() {
+    }
+
+    /** The test of one sentence of the document; what it throws is wrong too, and the sentences behind it are still tested. */
+    static void sentence(String sentence, Runnable test) {
+        words = "[" + sentence + "] ";
+        try {
+            test.run();
+        } catch (RuntimeException thrown) {
+            wrong++;
+            System.out.println(words + "threw " + thrown);
+        }
+        words = "";
     }
 
     static void due(String call, long got, long want) {
         if (got != want) {
             wrong++;
-            System.out.println(call + " answered " + got + ", due is " + want);
+            System.out.println(words + call + " answered " + got + ", due is " + want);
         }
     }
 
@@ -23,6 +36,17 @@ final class Check {
         }
     }
 
+    /** A frame of one pixel, for a test of vertices alone. */
+    static PolygonFrame with(int most, int... points) {
+        PolygonFrame frame = new PolygonFrame(1, 1, most);
+        add(frame, points);
+        return frame;
+    }
+
+    static void window(PolygonFrame frame, int x0, int y0, int x1, int y1) {
+        due("setClip(" + x0 + ", " + y0 + ", " + x1 + ", " + y1 + ")", frame.setClip(x0, y0, x1, y1), true);
+    }
+
     /** The polygon has just these vertices, told as x, y, x, y .. */
     static void polygon(String when, PolygonFrame frame, int... points) {
         int count = points.length / 2;
@@ -35,6 +59,22 @@ final class Check {
         due(when + ": vy(" + count + ")", frame.vy(count), -32768);
     }
 
+    /** A clip leaves just these vertices. */
+    static void clipped(String when, PolygonFrame frame, int... points) {
+        due(when + ": clip()", frame.clip(), points.length / 2);
+        polygon(when, frame, points);
+    }
+
+    /** A clip is refused, and the vertices are still these. */
+    static void refused(String when, PolygonFrame frame, int... points) {
+        due(when + ": clip()", frame.clip(), -1);
+        polygon(when, frame, points);
+    }
+
+    static void inside(PolygonFrame frame, int x, int y, boolean want) {
+        due("inside(" + x + ", " + y + ")", frame.inside(x, y), want);
+    }
+
     /** The frame has just these pixels, a line of digits for each y; a colour is a digit. */
     static void picture(String when, PolygonFrame frame, String... lines) {
         for (int y = 0; y < lines.length; y++) {
@@ -44,6 +84,15 @@ final class Check {
             due(when + ": pixel right of line " + y, frame.pixel(lines[y].length(), y), -1);
         }
         due(when + ": pixel below", frame.pixel(0, lines.length), -1);
+    }
+
+    /** All pixels from line y0 to line y1 have a colour; a whole frame of 24 lines would be more calls than an object has. */
+    static void lines(String when, PolygonFrame frame, int width, int y0, int y1, int colour) {
+        for (int y = y0; y <= y1; y++) {
+            for (int x = 0; x < width; x++) {
+                due(when + ": pixel(" + x + ", " + y + ")", frame.pixel(x, y), colour);
+            }
+        }
     }
 
     static void finish() {
