@@ -32,6 +32,7 @@ public final class ClipTest {
         Check.sentence("two VERTICES", ClipTest::two);
         Check.sentence("all within, and all beyond", ClipTest::withinAndBeyond);
         Check.sentence("a clip again", ClipTest::again);
+        Check.sentence("clip changes no WINDOW", ClipTest::keepsTheWindow);
         Check.sentence("clip changes no PIXELS", ClipTest::keepsThePixels);
         Check.finish();
     }
@@ -242,6 +243,15 @@ public final class ClipTest {
         Check.clipped("second", frame, 2, 5, 2, 2, 7, 2, 7, 6, 4, 12);
         Check.window(frame, 3, 3, 6, 6);
         Check.clipped("third", frame, 3, 6, 3, 3, 6, 3, 6, 6);
+    }
+
+    private static void keepsTheWindow() {
+        int[] square = {-99, -99, 99, -99, 99, 99, -99, 99};
+        PolygonFrame frame = frame(8, 2, 3, 5, 7, square);
+        Check.clipped("first", frame, 2, 7, 2, 3, 5, 3, 5, 7);
+        frame.begin();
+        Check.add(frame, square);
+        Check.clipped("the same again", frame, 2, 7, 2, 3, 5, 3, 5, 7);
     }
 
     private static void keepsThePixels() {

@@ -74,10 +74,12 @@ public final class PassTest {
 
     private static void zeroGoodLastBad() {
         pass(3, points(5, 0, 6, 3, 1, 4), 3, 2, 5, 0, 6, 3, 3, 3);
+        pass(3, points(5, 0, 8, 2, 6, 3, 4, 4, 1, 4), 3, 2, 5, 0, 8, 2, 6, 3, 4, 4, 3, 4);
     }
 
     private static void zeroBadLastGood() {
         pass(3, points(1, 4, 5, 0, 6, 3), 3, 3, 3, 2, 5, 0, 6, 3);
+        pass(3, points(1, 4, 5, 0, 2, 2, 1, 3, 6, 3), 3, 3, 3, 2, 5, 0, 3, 1, 3, 3, 6, 3);
     }
 
     private static void zeroGoodLastGood() {
@@ -147,6 +149,9 @@ public final class PassTest {
         pass(16383, points(low, high, high, low), 16383, -16383, 16383, -16383, high, low);
         pass(-16383, points(low, high, high, 16383), -16383, 16383, -16383, 16383, high, 16383);
         pass(-16383, points(low, low, high, -16383), -16383, low, -16383, low, high, -16383);
+        // Quotients that are one 32768th below 32401, and one below -32766.
+        pass(16233, points(low, low, high, 16167), 16233, 16016, 16233, 16016, high, 16167);
+        pass(16383, points(low, high, high, -16383), 16383, -16383, 16383, -16383, high, -16383);
         pass(0, points(low, low, high, 16383), 0, -1, 0, -1, high, 16383);
         pass(0, points(low, high, high, -16383), 0, 0, 0, 0, high, -16383);
     }
