@@ -79,10 +79,9 @@ public final class BeginTest {
     }
 
     private static void keepsTheWindow() {
-        PolygonFrame frame = Check.with(3);
-        Check.window(frame, 1, 1, 2, 2);
+        PolygonFrame frame = Check.with(4);
+        Check.window(frame, -1, 2, 3, 5);
         frame.begin();
-        Check.add(frame, 0, 0, 1, 1);
-        Check.clipped("begin", frame, 1, 1, 1, 1, 1, 1);
+        Check.windowIs(frame, -1, 2, 3, 5);
     }
 }

@@ -29,6 +29,13 @@ final class Check {
         due(call, got ? 1 : 0, want ? 1 : 0);
     }
 
+    static void due(String call, String got, String want) {
+        if (!got.equals(want)) {
+            wrong++;
+            System.out.println(words + call + " answered " + got + ", due is " + want);
+        }
+    }
+
     /** Adds vertices, told as x, y, x, y .., each of which must be taken. */
     static void add(PolygonFrame frame, int... points) {
         for (int i = 0; i + 1 < points.length; i += 2) {
@@ -45,6 +52,13 @@ final class Check {
 
     static void window(PolygonFrame frame, int x0, int y0, int x1, int y1) {
         due("setClip(" + x0 + ", " + y0 + ", " + x1 + ", " + y1 + ")", frame.setClip(x0, y0, x1, y1), true);
+    }
+
+    /** Cuts a square all round, so that every side of the window shows; it takes room for four vertices. */
+    static void windowIs(PolygonFrame frame, int x0, int y0, int x1, int y1) {
+        frame.begin();
+        add(frame, -99, -99, 99, -99, 99, 99, -99, 99);
+        clipped("window " + x0 + ", " + y0 + " .. " + x1 + ", " + y1, frame, x0, y1, x0, y0, x1, y0, x1, y1);
     }
 
     /** The polygon has just these vertices, told as x, y, x, y .. */

@@ -71,10 +71,9 @@ public final class ClearTest {
     }
 
     private static void keepsTheWindow() {
-        PolygonFrame frame = Check.with(3);
-        Check.window(frame, 1, 1, 2, 2);
+        PolygonFrame frame = Check.with(4);
+        Check.window(frame, -1, 2, 3, 5);
         frame.clear(3);
-        Check.add(frame, 0, 0, 1, 1);
-        Check.clipped("clear(3)", frame, 1, 1, 1, 1, 1, 1);
+        Check.windowIs(frame, -1, 2, 3, 5);
     }
 }

@@ -168,9 +168,7 @@ public final class ClipTest {
     private static void windowIsKept() {
         PolygonFrame frame = frame(4, 2, 3, 5, 7, 0, 5, 3, 0, 9, 5, 4, 9);
         Check.refused("too many", frame, 0, 5, 3, 0, 9, 5, 4, 9);
-        frame.begin();
-        Check.add(frame, -99, -99, 99, -99, 99, 99, -99, 99);
-        Check.clipped("the same window", frame, 2, 7, 2, 3, 5, 3, 5, 7);
+        Check.windowIs(frame, 2, 3, 5, 7);
     }
 
     private static void pixelsAreKept() {
@@ -246,12 +244,10 @@ public final class ClipTest {
     }
 
     private static void keepsTheWindow() {
-        int[] square = {-99, -99, 99, -99, 99, 99, -99, 99};
-        PolygonFrame frame = frame(8, 2, 3, 5, 7, square);
-        Check.clipped("first", frame, 2, 7, 2, 3, 5, 3, 5, 7);
-        frame.begin();
-        Check.add(frame, square);
-        Check.clipped("the same again", frame, 2, 7, 2, 3, 5, 3, 5, 7);
+        PolygonFrame frame = frame(8, 2, 3, 5, 7, LEFT);
+        Check.due("clip()", frame.clip(), 5);
+        Check.windowIs(frame, 2, 3, 5, 7);
+        Check.windowIs(frame, 2, 3, 5, 7);
     }
 
     private static void keepsThePixels() {

@@ -20,7 +20,9 @@ public final class FillTest {
         Check.sentence("the smallest and the largest frame", FillTest::smallestAndLargest);
         Check.sentence("an even number of crossings", FillTest::evenNumber);
         Check.sentence("any number is a colour", FillTest::anyColour);
+        Check.sentence("PIXELS that are not INSIDE keep their colours", FillTest::keepsTheOthers);
         Check.sentence("fill changes no VERTICES", FillTest::keepsTheVertices);
+        Check.sentence("fill changes no WINDOW", FillTest::keepsTheWindow);
         Check.sentence("INSIDE is the same for fill and inside", FillTest::agreesWithInside);
         Check.finish();
     }
@@ -158,6 +160,22 @@ public final class FillTest {
         PolygonFrame frame = frame(3, 3, 0, 0, 2, 0, 2, 2, 0, 2);
         frame.fill(8);
         Check.polygon("fill(8)", frame, 0, 0, 2, 0, 2, 2, 0, 2);
+    }
+
+    private static void keepsTheOthers() {
+        PolygonFrame frame = frame(4, 3, 1, 0, 3, 0, 3, 2, 1, 2);
+        frame.clear(9);
+        filled(frame, 2, 4, "9229", "9229", "9999");
+        frame.begin();
+        Check.add(frame, 0, 1, 2, 1, 2, 3, 0, 3);
+        filled(frame, 5, 4, "9229", "5529", "5599");
+    }
+
+    private static void keepsTheWindow() {
+        PolygonFrame frame = frame(3, 3, 0, 0, 2, 0, 2, 2, 0, 2);
+        Check.window(frame, -1, 2, 3, 5);
+        Check.due("fill(8)", frame.fill(8), 4);
+        Check.windowIs(frame, -1, 2, 3, 5);
     }
 
     private static void agreesWithInside() {

@@ -159,5 +159,9 @@ public final class InsideTest {
         Check.inside(frame, 0, 0, true);
         Check.polygon("inside", frame, 0, 0, 2, 0, 2, 2, 0, 2);
         Check.picture("inside", frame, "33", "33");
+        Check.window(frame, -1, 2, 3, 5);
+        Check.inside(frame, 1, 1, true);
+        Check.inside(frame, 2, 1, false);
+        Check.windowIs(frame, -1, 2, 3, 5);
     }
 }

@@ -1,15 +1,16 @@
-/** All promises at once: long runs of calls, the same ones every time, answer as the plain model does. */
+/** All promises at once: runs of 512 calls, the same ones every time, answer as the plain model does. */
 public final class ModelTest {
     private static final int RUNS = 3000;
-    /** With the reading of all vertices and some pixels at the end, a run has at most 512 calls. */
-    private static final int MIXED_CALLS = 260;
-    private static final int PIXELS_AT_THE_END = 120;
+    private static final int CALLS = 512;
+    /** Leaves room for the reading of all vertices and of some pixels. */
+    private static final int MIXED_CALLS = 300;
 
     private final PolygonFrame frame;
     private final PlainModel model;
     private final String name;
     private final int reach;
     private long seed;
+    private int calls;
 
     private ModelTest(int run) {
         name = "run " + run + ": ";
@@ -26,10 +27,14 @@ public final class ModelTest {
     public static void main(String[] args) {
         for (int run = 0; run < RUNS; run++) {
             ModelTest test = new ModelTest(run);
-            for (int call = 0; call < MIXED_CALLS; call++) {
+            // Half of the runs go on with mixed calls to the last one that is promised.
+            boolean reads = run % 4 < 2;
+            while (test.calls < (reads ? MIXED_CALLS : CALLS)) {
                 test.call();
             }
-            test.readAtTheEnd();
+            if (reads) {
+                test.readAtTheEnd();
+            }
         }
         Check.finish();
     }
@@ -49,6 +54,7 @@ public final class ModelTest {
     }
 
     private void call() {
+        calls++;
         switch (below(20)) {
             case 0 -> clear();
             case 1 -> begin();
@@ -119,9 +125,11 @@ public final class ModelTest {
         for (int i = 0; i <= model.vertices(); i++) {
             readX(i);
             readY(i);
+            calls += 2;
         }
-        for (int i = 0; i < PIXELS_AT_THE_END; i++) {
+        while (calls < CALLS) {
             readPixel();
+            calls++;
         }
     }
 }

@@ -3,7 +3,7 @@
  * side x0, and turned for the others.
  */
 public final class PassTest {
-    private static final String[] SIDES = {"x0: ", "x1: ", "y0: ", "y1: "};
+    private static final String[] SIDES = {"x0", "x1", "y0", "y1"};
     private static final int MOST = 8;
 
     public static void main(String[] args) {
@@ -16,6 +16,8 @@ public final class PassTest {
         Check.sentence("a PASS begins with VERTEX 0, the last one before it: both good", PassTest::zeroGoodLastGood);
         Check.sentence("a PASS begins with VERTEX 0, the last one before it: both not", PassTest::zeroBadLastBad);
         Check.sentence("good sides: at least x0, y0; at most x1, y1", PassTest::onTheSide);
+        Check.sentence("the new VERTICES, going round from VERTEX 0 on", PassTest::goingRound);
+        Check.sentence("the CUT: (s, b + (d - b) (s - a) / (c - a)); with y = s likewise", PassTest::ordinaryCuts);
         Check.sentence("the CUT is on the side, also where a VERTEX is", PassTest::cutWhereAVertexIs);
         Check.sentence("the CUT's quotient, above 0, is cut downwards", PassTest::quotientAboveZero);
         Check.sentence("the CUT's quotient, below 0, is cut downwards", PassTest::quotientBelowZero);
@@ -98,6 +100,17 @@ public final class PassTest {
         pass(-3, points(-4, 0));
         pass(-3, points(-3, 0), -3, 0);
         pass(-3, points(-2, 0), -2, 0);
+    }
+
+    private static void goingRound() {
+        pass(10, points(20, 0, 0, 0, 0, 40, 20, 40, 20, 30, 0, 10), 10, 5, 20, 0, 10, 0, 10, 40, 20, 40, 20, 30, 10, 20);
+    }
+
+    /** The first two cuts are at 11 + 86 * 7 / 20 and at 97 + -90 * -13 / -31. */
+    private static void ordinaryCuts() {
+        pass(10, points(3, 11, 23, 97, -8, 7), 10, 41, 23, 97, 10, 59);
+        pass(10, points(-3, 7, 16, 11, 40, 50), 10, 20, 10, 9, 16, 11, 40, 50);
+        pass(-100, points(211, -53, 400, 2000, -307, 1000), -100, 579, 211, -53, 400, 2000, -100, 1292);
     }
 
     private static void cutWhereAVertexIs() {

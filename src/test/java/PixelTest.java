@@ -113,5 +113,9 @@ public final class PixelTest {
         none(frame, 4, 3);
         Check.picture("pixel", frame, "7777", "7777", "7777");
         Check.polygon("pixel", frame, 1, 1);
+        Check.window(frame, -1, 2, 3, 5);
+        Check.due("pixel(1, 1)", frame.pixel(1, 1), 7);
+        none(frame, 4, 3);
+        Check.windowIs(frame, -1, 2, 3, 5);
     }
 }

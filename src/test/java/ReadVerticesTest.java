@@ -22,6 +22,7 @@ public final class ReadVerticesTest {
         Check.sentence("vertices: as many as there may be", ReadVerticesTest::countWhenFull);
         Check.sentence("vertices: behind refused calls", ReadVerticesTest::countBehindRefused);
         Check.sentence("vertices: behind a clip", ReadVerticesTest::countBehindAClip);
+        Check.sentence("vx, vy and vertices change nothing", ReadVerticesTest::changesNothing);
         Check.finish();
     }
 
@@ -155,5 +156,16 @@ public final class ReadVerticesTest {
         Check.window(frame, 11, 0, 12, 10);
         Check.due("clip()", frame.clip(), 0);
         Check.due("vertices()", frame.vertices(), 0);
+    }
+
+    private static void changesNothing() {
+        PolygonFrame frame = new PolygonFrame(2, 2, 4);
+        frame.clear(3);
+        Check.add(frame, 1, 2, 3, 4, 5, 6);
+        Check.window(frame, -1, 2, 3, 5);
+        Check.polygon("read once", frame, 1, 2, 3, 4, 5, 6);
+        Check.polygon("read again", frame, 1, 2, 3, 4, 5, 6);
+        Check.picture("read", frame, "33", "33");
+        Check.windowIs(frame, -1, 2, 3, 5);
     }
 }

@@ -26,27 +26,20 @@ public final class SetClipTest {
         return frame;
     }
 
-    /** Cuts a square all round, so that every side of the window shows. */
-    private static void windowIs(PolygonFrame frame, int x0, int y0, int x1, int y1) {
-        frame.begin();
-        Check.add(frame, -99, -99, 99, -99, 99, 99, -99, 99);
-        Check.clipped("window " + x0 + ", " + y0 + " .. " + x1 + ", " + y1, frame, x0, y1, x0, y0, x1, y0, x1, y1);
-    }
-
     private static void isRefused(int x0, int y0, int x1, int y1) {
         PolygonFrame frame = frame();
         String call = "setClip(" + x0 + ", " + y0 + ", " + x1 + ", " + y1 + ")";
         Check.due(call, frame.setClip(x0, y0, x1, y1), false);
-        windowIs(frame, 2, 3, 5, 7);
+        Check.windowIs(frame, 2, 3, 5, 7);
     }
 
     private static void toldLast() {
         PolygonFrame frame = frame();
-        windowIs(frame, 2, 3, 5, 7);
+        Check.windowIs(frame, 2, 3, 5, 7);
         Check.window(frame, -8, -6, 4, 1);
-        windowIs(frame, -8, -6, 4, 1);
+        Check.windowIs(frame, -8, -6, 4, 1);
         Check.window(frame, -20, -30, 40, 50);
-        windowIs(frame, -20, -30, 40, 50);
+        Check.windowIs(frame, -20, -30, 40, 50);
     }
 
     private static void x0AboveX1() {
@@ -70,21 +63,21 @@ public final class SetClipTest {
     private static void sameSides() {
         PolygonFrame frame = frame();
         Check.window(frame, 4, 1, 4, 6);
-        windowIs(frame, 4, 1, 4, 6);
+        Check.windowIs(frame, 4, 1, 4, 6);
         Check.window(frame, 1, 4, 6, 4);
-        windowIs(frame, 1, 4, 6, 4);
+        Check.windowIs(frame, 1, 4, 6, 4);
         Check.window(frame, -4, -5, -4, -5);
-        windowIs(frame, -4, -5, -4, -5);
+        Check.windowIs(frame, -4, -5, -4, -5);
         Check.window(frame, 4, 4, 5, 5);
-        windowIs(frame, 4, 4, 5, 5);
+        Check.windowIs(frame, 4, 4, 5, 5);
     }
 
     private static void otherAxis() {
         PolygonFrame frame = frame();
         Check.window(frame, 10, -20, 20, -10);
-        windowIs(frame, 10, -20, 20, -10);
+        Check.windowIs(frame, 10, -20, 20, -10);
         Check.window(frame, -20, 10, -10, 20);
-        windowIs(frame, -20, 10, -10, 20);
+        Check.windowIs(frame, -20, 10, -10, 20);
     }
 
     private static void x0() {

@@ -9,15 +9,18 @@ public final class TermsTest {
         Check.sentence("EDGES go from each one to the next", TermsTest::edgesToTheNext);
         Check.sentence("EDGES go from the last one to the first", TermsTest::edgeFromLastToFirst);
         Check.sentence("EDGES of one and of two VERTICES", TermsTest::edgesOfFewVertices);
+        Check.sentence("INSIDE: EDGES that cross the line of y above x", TermsTest::crossings);
         Check.sentence("INSIDE: an end whose y is at most y", TermsTest::lowerEnd);
         Check.sentence("INSIDE: an end whose y is above y", TermsTest::upperEnd);
         Check.sentence("INSIDE: a place above x", TermsTest::placeAboveX);
         Check.sentence("INSIDE: a place above x, exactly", TermsTest::placeExactly);
         Check.sentence("INSIDE: exactly, for the farthest points", TermsTest::placeOfFarPoints);
         Check.sentence("INSIDE: the number is odd", TermsTest::oddNumber);
+        Check.sentence("THE WINDOW is from (x0, y0) to (x1, y1)", TermsTest::windowFromTo);
         Check.sentence("THE WINDOW is with both its corners", TermsTest::windowWithItsCorners);
         Check.sentence("THE WINDOW is all COORDINATES at first", TermsTest::windowAtFirst);
         Check.sentence("THE FRAME has as many PIXELS as told, from (0, 0) on", TermsTest::pixelsAsTold);
+        Check.sentence("THE FRAME's PIXELS are each of a colour", TermsTest::eachOfAColour);
         Check.sentence("THE FRAME's PIXELS are of colour 0 at first", TermsTest::coloursAtFirst);
         Check.sentence("an object is used for at most 512 calls", TermsTest::lastCall);
         Check.finish();
@@ -123,6 +126,23 @@ public final class TermsTest {
             Check.inside(frame, y, y, false);
             Check.inside(frame, y + 1, y, false);
         }
+    }
+
+    /** A triangle: at y = 10 its edges cross at 5 and 35, at y = 30 at 15 and 25. */
+    private static void crossings() {
+        PolygonFrame frame = Check.with(3, 0, 0, 40, 0, 20, 40);
+        Check.inside(frame, 4, 10, false);
+        Check.inside(frame, 6, 10, true);
+        Check.inside(frame, 20, 10, true);
+        Check.inside(frame, 34, 10, true);
+        Check.inside(frame, 36, 10, false);
+        Check.inside(frame, 14, 30, false);
+        Check.inside(frame, 16, 30, true);
+        Check.inside(frame, 24, 30, true);
+        Check.inside(frame, 26, 30, false);
+        Check.inside(frame, 20, -10, false);
+        Check.inside(frame, 20, 50, false);
+        Check.inside(frame, -10, 20, false);
     }
 
     /** A right side and then a left side has the end at y = 2, its vertices in this order and in the other one. */
@@ -252,6 +272,21 @@ public final class TermsTest {
         Check.inside(thrice, 2, 2, true);
     }
 
+    /** Points well within are kept, and points well beyond one side or two are not. */
+    private static void windowFromTo() {
+        for (int x : new int[] {-40, -15, 20}) {
+            for (int y : new int[] {-9, 12, 33}) {
+                PolygonFrame frame = Check.with(3, x, y);
+                Check.window(frame, -20, 3, -10, 25);
+                boolean within = x == -15 && y == 12;
+                Check.due("(" + x + ", " + y + ") in -20, 3 .. -10, 25: clip()", frame.clip(), within ? 1 : 0);
+            }
+        }
+        PolygonFrame around = Check.with(4);
+        Check.window(around, -20, 3, -10, 25);
+        Check.windowIs(around, -20, 3, -10, 25);
+    }
+
     private static void windowWithItsCorners() {
         int[][] corners = {{2, 3}, {5, 3}, {5, 7}, {2, 7}};
         for (int[] corner : corners) {
@@ -298,6 +333,19 @@ public final class TermsTest {
         }
     }
 
+    private static void eachOfAColour() {
+        PolygonFrame frame = new PolygonFrame(3, 2, 4);
+        frame.clear(1);
+        for (int at = 0; at < 6; at++) {
+            int x = at % 3;
+            int y = at / 3;
+            frame.begin();
+            Check.add(frame, x, y, x + 1, y, x + 1, y + 1, x, y + 1);
+            Check.due("fill(" + (at + 2) + ")", frame.fill(at + 2), 1);
+        }
+        Check.picture("six colours", frame, "234", "567");
+    }
+
     private static void coloursAtFirst() {
         Check.picture("1 by 1", new PolygonFrame(1, 1, 3), "0");
         Check.picture("4 by 2", new PolygonFrame(4, 2, 3), "0000", "0000");
@@ -314,5 +362,32 @@ public final class TermsTest {
             Check.due("call " + call + ": fill(" + call + ")", frame.fill(call), 3);
         }
         Check.due("call 512: pixel(0, 0)", frame.pixel(0, 0), 511);
+        lastVertex();
+        lastClip();
+    }
+
+    private static void lastVertex() {
+        PolygonFrame frame = Check.with(60);
+        for (int call = 1; call <= 507; call++) {
+            if (call % 50 == 0) {
+                frame.begin();
+            } else {
+                Check.due("call " + call + ": vertex", frame.vertex(call, -call), true);
+            }
+        }
+        Check.due("call 508: vertex", frame.vertex(508, -508), true);
+        Check.due("call 509: vertices()", frame.vertices(), 8);
+        Check.due("call 510: vx(7)", frame.vx(7), 508);
+        Check.due("call 511: vy(7)", frame.vy(7), -508);
+        Check.due("call 512: vertex", frame.vertex(512, -512), true);
+    }
+
+    /** Each window is narrower than the one before, by one at its left side. */
+    private static void lastClip() {
+        PolygonFrame frame = Check.with(4, 0, 0, 999, 0, 999, 999, 0, 999);
+        for (int x0 = 1; x0 <= 254; x0++) {
+            Check.window(frame, x0, 0, 999, 999);
+            Check.due("x0 = " + x0 + ": clip()", frame.clip(), 4);
+        }
     }
 }

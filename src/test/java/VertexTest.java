@@ -16,6 +16,7 @@ public final class VertexTest {
         Check.sentence("the farthest COORDINATES are taken", VertexTest::farthest);
         Check.sentence("a VERTEX may be beyond THE WINDOW and THE FRAME", VertexTest::beyondTheWindow);
         Check.sentence("vertex changes no PIXELS", VertexTest::keepsThePixels);
+        Check.sentence("vertex changes no WINDOW", VertexTest::keepsTheWindow);
         Check.finish();
     }
 
@@ -111,5 +112,19 @@ public final class VertexTest {
         frame.clear(3);
         Check.add(frame, 0, 0, 2, 0, 2, 2);
         Check.picture("vertex", frame, "33", "33");
+        Check.due("no coordinate", frame.vertex(0, 16385), false);
+        Check.add(frame, 0, 2);
+        Check.due("one more than four", frame.vertex(1, 1), false);
+        Check.picture("refused", frame, "33", "33");
+    }
+
+    private static void keepsTheWindow() {
+        PolygonFrame frame = Check.with(4);
+        Check.window(frame, -1, 2, 3, 5);
+        Check.add(frame, 9, 9, -9, 9, 0, 0);
+        Check.due("no coordinate", frame.vertex(16385, 0), false);
+        Check.add(frame, 1, 1);
+        Check.due("one more than four", frame.vertex(1, 1), false);
+        Check.windowIs(frame, -1, 2, 3, 5);
     }
 }
